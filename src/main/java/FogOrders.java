@@ -506,7 +506,7 @@ public final class FogOrders {
             put(army, FROM, NONE);
             put(army, SUCCEEDED, 0);
             put(army, FAILED, 0);
-            countOne(ARMIES);
+            enter(numbers, ARMIES, army + 1);
             return army;
         }
 
@@ -577,8 +577,9 @@ public final class FogOrders {
 
         int seatsSeeing(int field) {
             int mask = 0;
-            for (int seat = 0; seat < SEATS; seat++) {
-                mask |= (seenMask(seat) >> field & 1) << seat;
+            for (int army = 0; army < number(ARMIES); army++) {
+                boolean sees = of(army, FIELD) == field || areNeighbours(of(army, FIELD), field);
+                mask |= sees ? 1 << of(army, SEAT) : 0;
             }
             return mask;
         }
@@ -772,7 +773,7 @@ public final class FogOrders {
         }
 
         boolean goes(int army) {
-            return moves(army) && entry(reason, army) == 0;
+            return board.of(army, KIND) == MOVE && entry(reason, army) == 0;
         }
 
         boolean hasRival(int army) {
