@@ -7,6 +7,7 @@ public final class ArmiesTest {
         armies();
         armiesRefused();
         drops();
+        armyInTheOldPlace();
         holds();
         moves();
         supports();
@@ -95,6 +96,30 @@ public final class ArmiesTest {
         Check.outOfBounds(orders, "drop(0) of none", () -> orders.drop(0));
         Check.due("undone drop", orders.undo(), 5);
         Check.due("armies again", orders.count(0), 1);
+    }
+
+    private static void armyInTheOldPlace() {
+        FogOrders orders = Setup.armies(2, 0, 1, 4);
+        Setup.give(orders, "0m1;1m3");
+        orders.open();
+        Setup.give(orders, "0m0;1m4");
+        orders.army(1, 8);
+        orders.move(2, 4);
+        orders.open();
+        Setup.give(orders, "0m1;1s8-7");
+        orders.drop(2);
+        orders.drop(1);
+        orders.drop(0);
+        Check.due("armies", orders.count(0), 0);
+        Check.due("army(0, 9)", orders.army(0, 9), 0);
+        Check.due("army(1, 5)", orders.army(1, 5), 1);
+        Setup.armyOf("in the old place", orders, 0, 0, 1);
+        Setup.armyOf("in the old place", orders, 1, 9, 5);
+        Setup.armyOf("in the old place", orders, 2, 0, 0);
+        Setup.armyOf("in the old place", orders, 3, -1, -1);
+        Setup.armyOf("in the old place", orders, 4, -1, -1);
+        Setup.armyOf("in the old place", orders, 5, 0, 0);
+        Setup.armyOf("in the old place", orders, 6, 0, 0);
     }
 
     private static void holds() {

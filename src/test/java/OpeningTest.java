@@ -27,6 +27,8 @@ public final class OpeningTest {
         retreatsInTurn();
         strongerFirst();
         noRetreatToABounce();
+        noRetreatBehindAStrongerRival();
+        nothingIsLeftOfDropped();
         retreatToAFieldLeft();
         disbanded();
         twoDisbanded();
@@ -262,6 +264,32 @@ public final class OpeningTest {
         opened("bounce on 4", orders, 2, 11, 0, 8, 3, 5);
         FogOrders none = given("1m0;2s1-0;3m4;4m4", 1, 0, 0, 1, 0, 8, 2, 3, 0, 5, 2, 11);
         Setup.ifOpened("no room but there", none, FIELD, -1, 0, 8, 3, 5, 11);
+    }
+
+    /** The stronger rival fails for the reason 2, and the field is left; the weaker one's bounce closes it still. */
+    private static void noRetreatBehindAStrongerRival() {
+        FogOrders orders = given("0m0;1m0;2s1-0;3m1;4s0-1;5s0-1;7m4;8s3-4",
+                2, 8, 1, 1, 1, 11, 0, 0, 0, 2, 0, 9, 1, 4, 0, 3, 0, 5);
+        Setup.ifOpened("stronger rival", orders, STRENGTH, 1, 2, 1, 3, 1, 1, 1, 2, 1);
+        Setup.ifOpened("stronger rival", orders, REASON, 1, 2, 0, 0, 0, 0, 0, 0, 0);
+        Setup.ifOpened("stronger rival", orders, FIELD, 8, -1, 11, 1, 2, 9, -1, 4, 5);
+        orders.hold(0);
+        Setup.ifOpened("without the weaker one", orders, FIELD, 8, -1, 11, 1, 2, 9, 0, 4, 5);
+    }
+
+    private static void nothingIsLeftOfDropped() {
+        FogOrders orders = given("1m0;2s1-0;3m4;4m4", 1, 0, 0, 1, 0, 8, 2, 3, 0, 5);
+        Setup.ifOpened("before a drop", orders, FIELD, 11, 0, 8, 3, 5);
+        orders.drop(4);
+        orders.drop(3);
+        Setup.ifOpened("the bounce is gone", orders, FIELD, 4, 0, 8);
+        orders.drop(2);
+        Setup.ifOpened("the support is gone", orders, STRENGTH, 1, 1);
+        Setup.ifOpened("the support is gone", orders, REASON, 0, 4);
+        orders.drop(1);
+        Setup.ifOpened("the move is gone", orders, DRIVEN, 0);
+        orders.army(2, 1);
+        Setup.ifOpened("another in its place", orders, FIELD, 0, 1);
     }
 
     private static void retreatToAFieldLeft() {

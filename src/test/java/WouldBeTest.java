@@ -194,6 +194,9 @@ public final class WouldBeTest {
         Check.dueShare("success() of two in four", orders.success(), 0.5);
         orders.undo();
         Check.dueShare("success() undone", orders.success(), 1.0 / 3.0);
+        FogOrders one = given("0m1", 0, 0, 0, 1);
+        one.open();
+        Check.dueShare("success() of one that failed", one.success(), 0.0);
         FogOrders all = given("0m1", 0, 0);
         all.open();
         Check.dueShare("success() of all", all.success(), 1.0);

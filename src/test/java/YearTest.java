@@ -161,6 +161,10 @@ public final class YearTest {
         FogOrders same = Setup.armies(0, 0);
         open(same, 2);
         Check.due("as many as centres", same.count(0), 1);
+        same.move(0, 1);
+        open(same, 2);
+        Check.due("as many as centres, and one is free", same.count(0), 1);
+        Check.due("none is built", same.count(8), 0);
         FogOrders more = Setup.armies(0, 0, 0, 1);
         open(more, 2);
         Check.due("one more than centres", more.count(0), 2);
