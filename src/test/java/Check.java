@@ -41,7 +41,7 @@ final class Check {
     }
 
     /** The call must throw just this exception, and leave all as it was. */
-    private static void refused(FogOrders orders, String call, Call done, String want) {
+    static void refused(FogOrders orders, String call, Call done, String want) {
         long before = orders.digest();
         String got = "answered";
         try {
