@@ -52,11 +52,11 @@ public final class FogOrders {
     private static final int OWN_ARMY = 3;
     private static final int OTHER_ARMY = 4;
 
-    private final Board board = new Board();
-    private final Opening opening = new Opening(board);
+    private final Opening opening = new Opening();
+    private final Board board = opening.board;
     // A copy on which orders are tried that nobody gave.
-    private final Board trial = new Board();
-    private final Opening trialOpening = new Opening(trial);
+    private final Opening trialOpening = new Opening();
+    private final Board trial = trialOpening.board;
     private final History history = new History();
     private final Board snapshot = new Board();
     private boolean hasSnapshot = false;
@@ -662,7 +662,7 @@ public final class FogOrders {
 
     /** What opening the orders of a board means, army by army, up to the end of the retreats. */
     private static final class Opening {
-        private final Board board;
+        private final Board board = new Board();
         private final int[] cut = new int[MOST_ARMIES];
         private final int[] counts = new int[MOST_ARMIES];
         private final int[] strength = new int[MOST_ARMIES];
@@ -670,10 +670,6 @@ public final class FogOrders {
         private final int[] driver = new int[MOST_ARMIES];
         private final int[] waits = new int[MOST_ARMIES];
         private final int[] stands = new int[MOST_ARMIES];
-
-        Opening(Board board) {
-            this.board = board;
-        }
 
         void study() {
             decideMoves();

@@ -1,6 +1,10 @@
 import java.nio.file.Files;
 import java.nio.file.Path;
 import java.util.List;
+import java.util.Map;
+import java.util.Set;
+import java.util.TreeMap;
+import java.util.TreeSet;
 import java.util.regex.Matcher;
 import java.util.regex.Pattern;
 
@@ -21,7 +25,9 @@ public final class RulesTest {
         imports(lines);
         thrown(code);
         staticFields(code);
+        made(code);
         methods(lines);
+        depth(List.of(code.split("\n")));
         Check.end("RulesTest");
     }
 
@@ -48,6 +54,20 @@ public final class RulesTest {
         }
     }
 
+    /** Rule 12: a constructor hands out nothing of the object that it makes. All are made in constructors here. */
+    private static void made(String code) {
+        Matcher found = Pattern.compile("(throw )?new [A-Z]\\w*\\(([^)]*)\\)").matcher(code);
+        int made = 0;
+        while (found.find()) {
+            if (found.group(1) == null) {
+                Check.note(found.group(2).isEmpty(), "handed nothing: " + found.group());
+                made++;
+            }
+        }
+        Check.note(made > 4, "what is made is found: " + made);
+        Check.note(!Pattern.compile("\\bthis\\b").matcher(code).find(), "no object hands itself out");
+    }
+
     /** Methods of at most sixty lines, with at most seven parameters. */
     private static void methods(List<String> lines) {
         Pattern head = Pattern.compile("( {4}| {8})[^ }].*\\((.*)\\).*\\{");
@@ -62,5 +82,45 @@ public final class RulesTest {
             }
         }
         Check.note(methods > 80, "the methods are found: " + methods);
+    }
+
+    /** Rule 11: calls go at most eight deep. Methods of one name are taken for one, so no chain is overlooked. */
+    private static void depth(List<String> lines) {
+        Map<String, Set<String>> calls = callsByMethod(lines);
+        int deepest = 0;
+        for (String name : calls.keySet()) {
+            deepest = Math.max(deepest, depthOf(name, calls, 20));
+        }
+        Check.note(deepest <= 8, "calls go " + deepest + " deep, due is at most 8");
+        Check.note(deepest >= 7, "the calls are found: " + deepest);
+    }
+
+    /** How many calls stand open at most, from this one on; no more than the most that are looked for. */
+    private static int depthOf(String name, Map<String, Set<String>> calls, int most) {
+        int below = 0;
+        for (String called : calls.get(name)) {
+            if (most > 1 && calls.containsKey(called)) {
+                below = Math.max(below, depthOf(called, calls, most - 1));
+            }
+        }
+        return below + 1;
+    }
+
+    private static Map<String, Set<String>> callsByMethod(List<String> lines) {
+        Pattern head = Pattern.compile("(?: {4}| {8})(?:public |private |static )*(?:int|long|double|boolean|void|Board)"
+                + " (\\w+)\\(.*\\{");
+        Pattern call = Pattern.compile("\\b(?!if\\b|for\\b|switch\\b|while\\b)([a-z]\\w*)\\(");
+        Map<String, Set<String>> calls = new TreeMap<>();
+        Set<String> called = new TreeSet<>();
+        for (String line : lines) {
+            Matcher found = head.matcher(line);
+            if (found.matches()) {
+                called = calls.computeIfAbsent(found.group(1), name -> new TreeSet<>());
+            } else {
+                Set<String> names = called;
+                call.matcher(line).results().forEach(result -> names.add(result.group(1)));
+            }
+        }
+        return calls;
     }
 }
